@@ -1,0 +1,195 @@
+import java.util.ArrayList;
+import java.util.Arrays;
+import java.util.List;
+import java.util.Locale;
+
+/**
+ * Runs of calls on a new object, told by lines of text:
+ *
+ * <pre>
+ * CALL = ANSWER        as in: put(5, 9) = throws.IllegalArgumentException
+ * text SIGNS           the text becomes this
+ * format SIGNS         likewise, and it is compiled, which must go well
+ * bytes HEX ..         the MESSAGE becomes these
+ * values NUMBER ..     the VALUES become these
+ * holds NUMBER ..      the VALUES are these
+ * message HEX ..       the MESSAGE is these
+ * reads NUMBER ..      read() goes well and the VALUES are these
+ * writes HEX ..        write() goes well and the MESSAGE is these
+ * read END SPOT NAME   read() stops so (END, WRONG or LEFT) and nothing else is changed
+ * write END SPOT NAME  likewise
+ * </pre>
+ *
+ * An empty line begins a new object. What is not as due is printed and counted.
+ */
+final class Script {
+    private static int checks = 0;
+    private static int wrong = 0;
+
+    private final String title;
+    private FormatForge forge = new FormatForge();
+
+    private Script(String title) {
+        this.title = title;
+    }
+
+    static void run(String title, String lines) {
+        Script script = new Script(title);
+        for (String line : lines.split("\n")) {
+            script.step(line.strip());
+        }
+    }
+
+    static void check(String what, Object got, Object want) {
+        checks++;
+        if (!got.equals(want)) {
+            wrong++;
+            System.out.println(what + ": answered " + got + ", due is " + want);
+        }
+    }
+
+    /** To be called at the end of each main method. */
+    static void finish(String test) {
+        System.out.println(test + ": " + checks + " answers looked at, " + wrong + " not as due");
+        if (wrong > 0 || checks == 0) {
+            System.exit(1);
+        }
+    }
+
+    private void step(String line) {
+        String[] words = line.split("\\s+");
+        String rest = line.substring(words[0].length()).strip();
+        switch (words[0]) {
+            case "":
+                forge = new FormatForge();
+                break;
+            case "text":
+                becomeText(rest);
+                break;
+            case "format":
+                becomeText(rest);
+                due(line + " - fault()", "-2");
+                check(title + ": " + line, Calls.answer(forge, "compile()").matches("\\d+"), true);
+                break;
+            case "bytes":
+                becomeMessage(hexBytes(rest));
+                break;
+            case "values":
+                becomeValues(numbers(rest));
+                break;
+            case "holds":
+                check(title + ": " + line, valuesOf(forge), numbers(rest));
+                break;
+            case "message":
+                check(title + ": " + line, messageOf(forge), hexBytes(rest));
+                break;
+            case "reads":
+                due(line + " - read()", "" + numbers(rest).size());
+                check(title + ": " + line, valuesOf(forge), numbers(rest));
+                break;
+            case "writes":
+                due(line + " - write()", "" + hexBytes(rest).size());
+                check(title + ": " + line, messageOf(forge), hexBytes(rest));
+                break;
+            case "read":
+            case "write":
+                stops(line, words[0], words[1], words[2], words[3]);
+                break;
+            default:
+                String[] sides = line.split(" = ");
+                due(sides[0], sides[1]);
+        }
+    }
+
+    private void due(String call, String want) {
+        String bare = call.contains(" - ") ? call.substring(call.indexOf(" - ") + 3) : call;
+        check(title + ": " + call, Calls.answer(forge, bare), want);
+    }
+
+    private void stops(String line, String way, String how, String spot, String name) {
+        List<Long> values = valuesOf(forge);
+        List<Integer> message = messageOf(forge);
+        String exception = how.equals("END") ? "NoSuchElementException"
+                : how.equals("WRONG") ? "IllegalStateException" : "IndexOutOfBoundsException";
+        due(line + " - " + way + "()", "throws." + exception);
+        due(line + " - count(3)", spot);
+        due(line + " - count(4)", name);
+        check(title + ": the values after " + line, valuesOf(forge), values);
+        check(title + ": the message after " + line, messageOf(forge), message);
+    }
+
+    private void becomeText(String signs) {
+        forge.clear();
+        for (int i = 0; i < signs.length(); i += 8) {
+            forge.type(packed(signs.substring(i, Math.min(i + 8, signs.length()))));
+        }
+    }
+
+    private void becomeMessage(List<Integer> bytes) {
+        forge.cut(0);
+        for (int b : bytes) {
+            forge.put(b, 1);
+        }
+    }
+
+    private void becomeValues(List<Long> values) {
+        forge.drop(0, forge.count(2));
+        for (long v : values) {
+            forge.set(forge.count(2), v);
+        }
+    }
+
+    /** At most eight signs as the number that type() takes. */
+    static long packed(String signs) {
+        long packed = 0;
+        for (char sign : signs.toCharArray()) {
+            packed = packed << 8 | sign;
+        }
+        return packed;
+    }
+
+    static List<Long> valuesOf(FormatForge forge) {
+        List<Long> values = new ArrayList<>();
+        for (int i = 0; i < forge.count(2); i++) {
+            values.add(forge.value(i));
+        }
+        return values;
+    }
+
+    static List<Integer> messageOf(FormatForge forge) {
+        List<Integer> bytes = new ArrayList<>();
+        for (int i = 0; i < forge.count(1); i++) {
+            bytes.add(forge.byteAt(i));
+        }
+        return bytes;
+    }
+
+    /** "7*3" stands for three times 7. */
+    private static List<Long> numbers(String words) {
+        List<Long> numbers = new ArrayList<>();
+        for (String word : spread(words)) {
+            numbers.add(Long.decode(word));
+        }
+        return numbers;
+    }
+
+    private static List<Integer> hexBytes(String words) {
+        List<Integer> bytes = new ArrayList<>();
+        for (String word : spread(words)) {
+            bytes.add(Integer.parseInt(word.toLowerCase(Locale.ROOT), 16));
+        }
+        return bytes;
+    }
+
+    private static List<String> spread(String words) {
+        List<String> all = new ArrayList<>();
+        for (String word : words.isEmpty() ? List.<String>of() : Arrays.asList(words.split("\\s+"))) {
+            String[] parts = word.split("\\*");
+            int times = parts.length > 1 ? Integer.parseInt(parts[1]) : 1;
+            for (int k = 0; k < times; k++) {
+                all.add(parts[0]);
+            }
+        }
+        return all;
+    }
+}
