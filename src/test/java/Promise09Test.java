@@ -513,6 +513,7 @@ public final class Promise09Test {
                 read END 20 2
                 bytes 15 ff*21
                 read WRONG 20 9
+
                 format {a:u1;b:*a{c:p1;d:p1;e:p1;f:p1;g:p1;h:p1;i:p1;j:p1;};k:z;l:z;}
                 bytes 13 ff*19 07*5 00 00
                 reads 19 1*152 5 7*5 0
@@ -520,6 +521,7 @@ public final class Promise09Test {
                 read WRONG 27 11
                 bytes 13 ff*19 07*7 00 00
                 read WRONG 20 10
+
                 format {a:u1;b:*a{c:p1;d:p1;e:p1;f:p1;g:p1;h:p1;i:p1;j:p1;};k:*au1;}
                 bytes 11 ff*17 07*17
                 reads 17 1*136 7*17

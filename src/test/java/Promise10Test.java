@@ -141,6 +141,8 @@ public final class Promise10Test {
                 write WRONG 0 0
                 values -1 0
                 write WRONG 0 0
+
+                format {a:z;b:z;}
                 values 1 0 0
                 write WRONG 0 0
                 values 1 256 0
@@ -171,6 +173,8 @@ public final class Promise10Test {
                 writes 00 ff 80 7f
                 values 120 9*120
                 writes 09*120
+
+                format r
                 values 121 9*121
                 write WRONG 0 -1
                 values -1
@@ -267,17 +271,23 @@ public final class Promise10Test {
                 write WRONG 113 2
                 values 15 0*15 0
                 write WRONG 113 1
+
+                format {a:u1<99;b:*ad;c:r;}
                 values 14 0*14 120 1*120
                 write WRONG 113 2
+
                 format {a:u1<99;b:*ad;c:z;d:u1;}
                 values 14 0*14 5 1*5 7
                 writes 0e 00*112 01*5 00 07
+
+                format {a:u1<99;b:*ad;c:z;d:u1;}
                 values 14 0*14 6 1*6 7
                 write WRONG 120 3
                 values 14 0*14 7 1*7 7
                 write WRONG 113 2
                 values 14 0*14 6 1*6
                 write END 120 3
+
                 format {a:u1<99;b:*ad;c:u4;d:u2;e:p7;f:p1;g:p1;}
                 values 14 0*14 0 0 1 1
                 write END 120 6

@@ -32,6 +32,8 @@ public final class Promise13Test {
                 set(159, 4) = 160
                 set(0, 5) = 160
                 holds 5 1*158 4
+
+                values 5 1*158 4
                 drop(0, 1) = 159
                 set(159, 6) = 160
                 holds 1*158 4 6

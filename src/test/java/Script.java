@@ -20,14 +20,20 @@ import java.util.Locale;
  * write END SPOT NAME  likewise
  * </pre>
  *
- * An empty line begins a new object. What is not as due is printed and counted.
+ * "7*3" stands for three times 7. An empty line begins a new object, since one is for 512 calls only.
+ * What is not as due is printed and counted.
  */
 final class Script {
     private static int checks = 0;
     private static int wrong = 0;
 
+    private static final int CALLS_OF_AN_OBJECT = 512;
+    /** So many values or bytes are looked at from each end where they must be as before. */
+    private static final int SOME = 6;
+
     private final String title;
     private FormatForge forge = new FormatForge();
+    private int calls = 0;
 
     private Script(String title) {
         this.title = title;
@@ -37,6 +43,7 @@ final class Script {
         Script script = new Script(title);
         for (String line : lines.split("\n")) {
             script.step(line.strip());
+            check(title + ": calls of one object up to " + line, script.calls <= CALLS_OF_AN_OBJECT, true);
         }
     }
 
@@ -62,6 +69,7 @@ final class Script {
         switch (words[0]) {
             case "":
                 forge = new FormatForge();
+                calls = 0;
                 break;
             case "text":
                 becomeText(rest);
@@ -69,7 +77,7 @@ final class Script {
             case "format":
                 becomeText(rest);
                 due(line + " - fault()", "-2");
-                check(title + ": " + line, Calls.answer(forge, "compile()").matches("\\d+"), true);
+                check(title + ": " + line, answer("compile()").matches("\\d+"), true);
                 break;
             case "bytes":
                 becomeMessage(hexBytes(rest));
@@ -78,18 +86,18 @@ final class Script {
                 becomeValues(numbers(rest));
                 break;
             case "holds":
-                check(title + ": " + line, valuesOf(forge), numbers(rest));
+                check(title + ": " + line, all("value", 2), words(numbers(rest)));
                 break;
             case "message":
-                check(title + ": " + line, messageOf(forge), hexBytes(rest));
+                check(title + ": " + line, all("byteAt", 1), words(hexBytes(rest)));
                 break;
             case "reads":
                 due(line + " - read()", "" + numbers(rest).size());
-                check(title + ": " + line, valuesOf(forge), numbers(rest));
+                check(title + ": " + line, all("value", 2), words(numbers(rest)));
                 break;
             case "writes":
                 due(line + " - write()", "" + hexBytes(rest).size());
-                check(title + ": " + line, messageOf(forge), hexBytes(rest));
+                check(title + ": " + line, all("byteAt", 1), words(hexBytes(rest)));
                 break;
             case "read":
             case "write":
@@ -101,41 +109,72 @@ final class Script {
         }
     }
 
+    private String answer(String call) {
+        calls++;
+        return Calls.answer(forge, call);
+    }
+
     private void due(String call, String want) {
         String bare = call.contains(" - ") ? call.substring(call.indexOf(" - ") + 3) : call;
-        check(title + ": " + call, Calls.answer(forge, bare), want);
+        check(title + ": " + call, answer(bare), want);
     }
 
     private void stops(String line, String way, String how, String spot, String name) {
-        List<Long> values = valuesOf(forge);
-        List<Integer> message = messageOf(forge);
+        List<String> values = some("value", 2);
+        List<String> message = some("byteAt", 1);
         String exception = how.equals("END") ? "NoSuchElementException"
                 : how.equals("WRONG") ? "IllegalStateException" : "IndexOutOfBoundsException";
         due(line + " - " + way + "()", "throws." + exception);
         due(line + " - count(3)", spot);
         due(line + " - count(4)", name);
-        check(title + ": the values after " + line, valuesOf(forge), values);
-        check(title + ": the message after " + line, messageOf(forge), message);
+        check(title + ": the values after " + line, some("value", 2), values);
+        check(title + ": the message after " + line, some("byteAt", 1), message);
+    }
+
+    private List<String> all(String getter, int counter) {
+        List<String> all = new ArrayList<>();
+        int many = Integer.parseInt(answer("count(" + counter + ")"));
+        for (int i = 0; i < many; i++) {
+            all.add(answer(getter + "(" + i + ")"));
+        }
+        return all;
+    }
+
+    private List<String> some(String getter, int counter) {
+        List<String> some = new ArrayList<>();
+        int many = Integer.parseInt(answer("count(" + counter + ")"));
+        some.add("of " + many);
+        for (int i = 0; i < many; i++) {
+            if (i < SOME || i >= many - SOME) {
+                some.add(answer(getter + "(" + i + ")"));
+            }
+        }
+        return some;
     }
 
     private void becomeText(String signs) {
-        forge.clear();
+        answer("clear()");
         for (int i = 0; i < signs.length(); i += 8) {
-            forge.type(packed(signs.substring(i, Math.min(i + 8, signs.length()))));
+            answer("type(" + packed(signs.substring(i, Math.min(i + 8, signs.length()))) + ")");
         }
     }
 
     private void becomeMessage(List<Integer> bytes) {
-        forge.cut(0);
-        for (int b : bytes) {
-            forge.put(b, 1);
+        answer("cut(0)");
+        for (int i = 0; i < bytes.size(); ) {
+            int count = Math.min(8, bytes.size() - i);
+            long packed = 0;
+            for (int end = i + count; i < end; i++) {
+                packed = packed << 8 | bytes.get(i);
+            }
+            answer("put(" + packed + ", " + count + ")");
         }
     }
 
     private void becomeValues(List<Long> values) {
-        forge.drop(0, forge.count(2));
-        for (long v : values) {
-            forge.set(forge.count(2), v);
+        answer("drop(0, " + answer("count(2)") + ")");
+        for (int i = 0; i < values.size(); i++) {
+            answer("set(" + i + ", " + values.get(i) + ")");
         }
     }
 
@@ -148,23 +187,14 @@ final class Script {
         return packed;
     }
 
-    static List<Long> valuesOf(FormatForge forge) {
-        List<Long> values = new ArrayList<>();
-        for (int i = 0; i < forge.count(2); i++) {
-            values.add(forge.value(i));
+    private static List<String> words(List<?> numbers) {
+        List<String> words = new ArrayList<>();
+        for (Object number : numbers) {
+            words.add("" + number);
         }
-        return values;
+        return words;
     }
 
-    static List<Integer> messageOf(FormatForge forge) {
-        List<Integer> bytes = new ArrayList<>();
-        for (int i = 0; i < forge.count(1); i++) {
-            bytes.add(forge.byteAt(i));
-        }
-        return bytes;
-    }
-
-    /** "7*3" stands for three times 7. */
     private static List<Long> numbers(String words) {
         List<Long> numbers = new ArrayList<>();
         for (String word : spread(words)) {
