@@ -417,7 +417,7 @@ public final class FormatForge {
             return outer != null && outer.kind == outerKind;
         }
 
-        boolean hasSign() {
+        boolean mayBeNegative() {
             return kind == SIGNED || kind == FLOAT || kind == DOUBLE;
         }
 
@@ -433,7 +433,7 @@ public final class FormatForge {
         void widenTo(int newWidth) {
             width = newWidth;
             int bits = kind == BITS ? width : 8 * width;
-            if (hasSign()) {
+            if (mayBeNegative()) {
                 low = -1L << bits - 1;
                 high = ~low;
             } else {
@@ -980,7 +980,7 @@ public final class FormatForge {
                 int i = node.kind == LOW_FIRST ? node.width - 1 - k : k;
                 v = v << 8 | message.at(from + i);
             }
-            if (node.hasSign()) {
+            if (node.mayBeNegative()) {
                 int above = 64 - 8 * node.width;
                 v = v << above >> above;
             }

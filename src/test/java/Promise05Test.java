@@ -43,6 +43,9 @@ public final class Promise05Test {
         // The TYPE around a name is not before it.
         isUnsound("{a:{b:*au1;};}", "{b:u1;a:?a{0:u1;};}");
         compiles(1, "{a:u1=0;b:?a{0:{};};}");
+        // A CASE's TYPE is no FIELD, and a FIELD of a CASE is not around the next.
+        isUnsound("{a:u1;b:?a{0:u1;1:*bu1;};}", "{a:u1;b:?a{0:{c:u1;};1:/cu1;};}");
+        compiles(6, "{a:u1<5;b:u1=1;c:?a{0:u1;1:*bf;2:*bu4;};}");
     }
 
     private static void sizesThatAreTooGreat() {

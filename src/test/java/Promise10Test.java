@@ -82,6 +82,14 @@ public final class Promise10Test {
                 format {a:p4;b:{c:p4;};d:p4;}
                 values 5 10 3
                 writes 50 a0 30
+                format {a:p1;b:u1;}
+                values 1
+                write END 1 1
+                values 1 256
+                write WRONG 1 1
+                format {a:u1;b:p1;c:/au1;d:p7;e:p2;f:p7;}
+                values 1 1 9 1 1
+                write END 4 5
                 format {a:p2;b:*a{c:p2;};}
                 values 3 3 2 1
                 writes c0 c0 80 40
