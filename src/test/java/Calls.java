@@ -1,8 +1,12 @@
 import java.lang.reflect.InvocationTargetException;
 import java.lang.reflect.Method;
+import java.util.HashMap;
+import java.util.Map;
 
 /** Makes a call that is told by a text, such as "put(5, 2)", and tells what came of it. */
 final class Calls {
+    private static final Map<String, Method> METHODS = new HashMap<>();
+
     private Calls() {
     }
 
@@ -12,7 +16,8 @@ final class Calls {
         String inside = call.substring(call.indexOf('(') + 1, call.indexOf(')'));
         String[] words = inside.isEmpty() ? new String[0] : inside.split(", ");
         try {
-            Method method = methodOf(target.getClass(), name, words.length);
+            Class<?> type = target.getClass();
+            Method method = METHODS.computeIfAbsent(type.getName() + "." + name, key -> methodOf(type, name, words.length));
             return "" + method.invoke(target, arguments(method, words));
         } catch (InvocationTargetException e) {
             return "throws." + e.getCause().getClass().getSimpleName();

@@ -4,7 +4,9 @@ import java.util.List;
 import java.util.Locale;
 
 /**
- * Runs of calls on a new object, told by lines of text:
+ * Runs of calls on a new object, told by lines of text. After each call that is due to throw the whole
+ * state is looked at too: it must be as without that call, but for what the document says ({@link After}).
+ * The lines are:
  *
  * <pre>
  * CALL = ANSWER        as in: put(5, 9) = throws.IllegalArgumentException
@@ -27,13 +29,11 @@ final class Script {
     private static int checks = 0;
     private static int wrong = 0;
 
-    private static final int CALLS_OF_AN_OBJECT = 512;
-    /** So many values or bytes are looked at from each end where they must be as before. */
-    private static final int SOME = 6;
+    static final int CALLS_OF_AN_OBJECT = 512;
 
     private final String title;
     private FormatForge forge = new FormatForge();
-    private int calls = 0;
+    private final List<String> calls = new ArrayList<>();
 
     private Script(String title) {
         this.title = title;
@@ -43,7 +43,7 @@ final class Script {
         Script script = new Script(title);
         for (String line : lines.split("\n")) {
             script.step(line.strip());
-            check(title + ": calls of one object up to " + line, script.calls <= CALLS_OF_AN_OBJECT, true);
+            check(title + ": calls of one object up to " + line, script.calls.size() <= CALLS_OF_AN_OBJECT, true);
         }
     }
 
@@ -69,7 +69,7 @@ final class Script {
         switch (words[0]) {
             case "":
                 forge = new FormatForge();
-                calls = 0;
+                calls.clear();
                 break;
             case "text":
                 becomeText(rest);
@@ -110,25 +110,25 @@ final class Script {
     }
 
     private String answer(String call) {
-        calls++;
+        calls.add(call);
         return Calls.answer(forge, call);
     }
 
     private void due(String call, String want) {
         String bare = call.contains(" - ") ? call.substring(call.indexOf(" - ") + 3) : call;
+        List<String> before = new ArrayList<>(calls);
         check(title + ": " + call, answer(bare), want);
+        if (want.startsWith("throws.")) {
+            After.check(title + ": after " + call, before, bare);
+        }
     }
 
     private void stops(String line, String way, String how, String spot, String name) {
-        List<String> values = some("value", 2);
-        List<String> message = some("byteAt", 1);
         String exception = how.equals("END") ? "NoSuchElementException"
                 : how.equals("WRONG") ? "IllegalStateException" : "IndexOutOfBoundsException";
         due(line + " - " + way + "()", "throws." + exception);
         due(line + " - count(3)", spot);
         due(line + " - count(4)", name);
-        check(title + ": the values after " + line, some("value", 2), values);
-        check(title + ": the message after " + line, some("byteAt", 1), message);
     }
 
     private List<String> all(String getter, int counter) {
@@ -140,22 +140,11 @@ final class Script {
         return all;
     }
 
-    private List<String> some(String getter, int counter) {
-        List<String> some = new ArrayList<>();
-        int many = Integer.parseInt(answer("count(" + counter + ")"));
-        some.add("of " + many);
-        for (int i = 0; i < many; i++) {
-            if (i < SOME || i >= many - SOME) {
-                some.add(answer(getter + "(" + i + ")"));
-            }
-        }
-        return some;
-    }
-
     private void becomeText(String signs) {
         answer("clear()");
         for (int i = 0; i < signs.length(); i += 8) {
-            answer("type(" + packed(signs.substring(i, Math.min(i + 8, signs.length()))) + ")");
+            String end = signs.substring(0, Math.min(i + 8, signs.length()));
+            check(title + ": signs of " + end, answer("type(" + packed(end.substring(i)) + ")"), "" + end.length());
         }
     }
 
