@@ -16,8 +16,9 @@ import java.util.stream.Stream;
 public final class LanguageTest {
     private static final Path MAIN = Path.of("src", "main");
     private static final Path SOURCE = MAIN.resolve(Path.of("java", "FormatForge.java"));
-    private static final String[] FORBIDDEN = {"(?m)^(?!\\s*(case|default)\\b).*->", "::", "\\bfinally\\b", "\\bsynchronized\\b", "\\bassert\\b",
-        "\\bvolatile\\b", "\\bpackage\\b", "\\bthrow\\s+(?!new\\b)", "\\bstatic\\s*\\{", "\\bThread\\b", "\\bprotected\\b", "\\bgetMessage\\b",
+    private static final String[] FORBIDDEN = {"(?m)^(?!\\s*(case|default)\\b).*->", "::", "\\bfinally\\b", "\\bsynchronized\\b",
+        "\\bassert\\b", "\\bvolatile\\b", "\\bpackage\\b", "\\bthrow\\s+(?!new\\b)", "\\bstatic\\s*\\{", "\\bThread\\b",
+        "\\bprotected\\b", "\\bgetMessage\\b",
         "\\bSystem\\.(?!arraycopy\\b)", "\\bMath\\.\\w+Exact\\b", "\\bString\\.", "\\[\\]\\s*\\[\\]\\s*\\["};
     private static final Set<String> IMPORTED = Set.of("java.util.NoSuchElementException", "java.util.ArrayList", "java.util.Arrays",
             "java.util.Iterator", "java.util.List");

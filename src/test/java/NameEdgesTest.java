@@ -95,6 +95,8 @@ public final class NameEdgesTest {
         meansNone("{c:u1=1;b:*cX;}");
         meansNone("{c:u1=1;b:?c{1:X;};}");
         meansNone("{c:u1<2;b:?c{0:u1=2;1:X;};}");
+        meansNone("{c:u1<2;a:?c{0:u1=2;1:X;};}");
+        meansNone("{c:u1<2;a:?c{0:u1=2;1:{d:X;};};}");
     }
 
     private static void notInOneThatHasEnded() {
@@ -140,7 +142,8 @@ public final class NameEdgesTest {
             }
         }
         for (char name = 'a'; name <= 'l'; name++) {
-            Script.run("a name of its own: " + name, "format {" + name + ":u1;b:*" + name + "u1;}\nbytes 02 03 04\nreads 2 3 4");
+            Script.run("a name of its own: " + name,
+                    "format {" + name + ":u1;b:*" + name + "u1;}", "bytes 02 03 04", "reads 2 3 4");
         }
     }
 

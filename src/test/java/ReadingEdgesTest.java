@@ -1,8 +1,8 @@
 /** READING: where END and WRONG begin, for each kind of unit, and SPOT and NAME there. */
 public final class ReadingEdgesTest {
     /** Units of a fixed width: the text and how many bytes. */
-    private static final String[][] FIXED = {{"u1", "1"}, {"u2", "2"}, {"u3", "3"}, {"u4", "4"}, {"v1", "1"}, {"v2", "2"}, {"v3", "3"},
-        {"v4", "4"}, {"s1", "1"}, {"s2", "2"}, {"s3", "3"}, {"s4", "4"}, {"f", "4"}, {"d", "8"}};
+    private static final String[][] FIXED = {{"u1", "1"}, {"u2", "2"}, {"u3", "3"}, {"u4", "4"}, {"v1", "1"}, {"v2", "2"},
+        {"v3", "3"}, {"v4", "4"}, {"s1", "1"}, {"s2", "2"}, {"s3", "3"}, {"s4", "4"}, {"f", "4"}, {"d", "8"}};
     /** A format of so many values behind which one more unit k stands: the format and a message up to k. */
     private static final String WITH_159 = "{a:u1;b:*a{c:p1;d:p1;};k:X;}";
     private static final String BYTES_OF_159 = "4f c0*79";
@@ -37,13 +37,17 @@ public final class ReadingEdgesTest {
         for (String[] unit : FIXED) {
             int width = Integer.parseInt(unit[1]);
             for (int there = 0; there < width; there++) {
-                Script.run("END: " + there + " of " + width + " bytes", "format " + unit[0] + "\nbytes 00*" + there + "\nread END 0 -1"
-                        + "\nformat {c:u2;j:" + unit[0] + ";}\nbytes 00 00 00*" + there + "\nread END 2 9");
+                Script.run("END: " + there + " of " + width + " bytes",
+                        "format " + unit[0], "bytes 00*" + there, "read END 0 -1", "format {c:u2;j:" + unit[0] + ";}",
+                        "bytes 00 00 00*" + there, "read END 2 9");
             }
-            Script.run("all are there", "format " + unit[0] + "\nbytes 00*" + width + "\nreads 0\nformat {c:u2;j:" + unit[0]
-                    + ";}\nbytes 00 00 00*" + width + "\nreads 0 0");
-            Script.run("one more is left", "format " + unit[0] + "\nbytes 00*" + (width + 1) + "\nread LEFT " + width + " -1\nformat {c:u2;j:"
-                    + unit[0] + ";}\nbytes 00 00 00*" + (width + 1) + "\nread LEFT " + (width + 2) + " -1");
+            Script.run("all are there",
+                    "format " + unit[0], "bytes 00*" + width, "reads 0", "format {c:u2;j:" + unit[0] + ";}",
+                    "bytes 00 00 00*" + width, "reads 0 0");
+            Script.run("one more is left",
+                    "format " + unit[0], "bytes 00*" + (width + 1), "read LEFT " + width + " -1",
+                    "format {c:u2;j:" + unit[0] + ";}", "bytes 00 00 00*" + (width + 1),
+                    "read LEFT " + (width + 2) + " -1");
         }
         // What is not there is END, whatever the bytes that are.
         Script.run("END before WRONG", """
@@ -151,10 +155,11 @@ public final class ReadingEdgesTest {
                 int firstOnly = (1 << first) - 1 << 16 - first;
                 int secondOnly = (1 << second) - 1 << 16 - first - second;
                 Script.run("BITS from where the BITS before them ended: " + first + " and " + second,
-                        "format {a:p" + first + ";b:p" + second + ";}\nbytes " + hex(firstOnly, together) + "\nreads "
-                        + ((1 << first) - 1) + " 0\nbytes " + hex(secondOnly, together) + "\nreads 0 " + ((1 << second) - 1)
-                        + "\nformat {a:p" + first + ";b:{};c:p" + second + ";}\nbytes " + hex(firstOnly, 1) + " "
-                        + hex((1 << second) - 1 << 16 - second, 1) + "\nreads " + ((1 << first) - 1) + " " + ((1 << second) - 1));
+                        "format {a:p" + first + ";b:p" + second + ";}", "bytes " + hex(firstOnly, together),
+                        "reads " + ((1 << first) - 1) + " 0", "bytes " + hex(secondOnly, together),
+                        "reads 0 " + ((1 << second) - 1), "format {a:p" + first + ";b:{};c:p" + second + ";}",
+                        "bytes " + hex(firstOnly, 1) + " " + hex((1 << second) - 1 << 16 - second, 1),
+                        "reads " + ((1 << first) - 1) + " " + ((1 << second) - 1));
             }
         }
         Script.run("else from the next byte", """
@@ -256,20 +261,23 @@ public final class ReadingEdgesTest {
                     message.append(i == bit / 8 ? String.format("%02x ", 128 >> bit % 8) : "00 ");
                 }
                 // A rest is looked at before it shows that bytes are left.
-                Script.run("behind " + n + " bits the rest of the byte must be 0", "format " + text + "\nbytes " + message + "\n"
-                        + (bit < n ? "read() = " + (last / 7 + 1) : "read WRONG " + last / 8 + " 11") + "\nbytes " + message + "01\nread "
-                        + (bit < n ? "LEFT " + bytes + " -1" : "WRONG " + last / 8 + " 11"));
+                boolean isRest = bit >= n;
+                String wrong = "read WRONG " + last / 8 + " 11";
+                Script.run("behind " + n + " bits the rest of the byte must be 0", "format " + text,
+                        "bytes " + message, isRest ? wrong : "read() = " + (last / 7 + 1),
+                        "bytes " + message + "01", isRest ? wrong : "read LEFT " + bytes + " -1");
             }
         }
     }
 
     private static void whereTheRestIsLookedAt() {
-        String[] units = {"u1", "v2", "s3", "f", "d", "z", "u1<1", "{c:u1;}", "{c:{};d:u1;}", "{c:p3;}", "*au1", "/au1", "?a{1:u1;}",
-            "*a{c:p3;}", "/a{c:p3;}", "?a{1:{c:p3;};}"};
+        String[] units = {"u1", "v2", "s3", "f", "d", "z", "u1<1", "{c:u1;}", "{c:{};d:u1;}", "{c:p3;}", "*au1", "/au1",
+            "?a{1:u1;}", "*a{c:p3;}", "/a{c:p3;}", "?a{1:{c:p3;};}"};
         for (String unit : units) {
             int name = unit.contains("d:") ? 3 : unit.contains("c:") ? 2 : 1;
-            Script.run("a byte's rest is looked at where the next unit would begin", "format {a:p3;b:" + unit + ";}\nbytes 20\nread END 1 "
-                    + name + "\nbytes 21\nread WRONG 0 0\nbytes 30\nread WRONG 0 0\nbytes 21 ff*9\nread WRONG 0 0");
+            Script.run("a byte's rest is looked at where the next unit would begin",
+                    "format {a:p3;b:" + unit + ";}", "bytes 20", "read END 1 " + name, "bytes 21", "read WRONG 0 0",
+                    "bytes 30", "read WRONG 0 0", "bytes 21 ff*9", "read WRONG 0 0");
         }
         Script.run("REST is a unit too", """
                 format {a:p3;b:r;}
@@ -330,13 +338,15 @@ public final class ReadingEdgesTest {
 
     private static void words20And21() {
         for (int many : new int[] {0, 1, 2, 18, 19, 20}) {
-            Script.run("WORDS: " + many + " bytes before the next byte 0", "format z\nbytes 41*" + many + " 00\nreads " + many + " 65*" + many
-                    + "\nbytes 41*" + many + " 00 07\nread LEFT " + (many + 1) + " -1\nformat {c:u1;d:z;e:u1;}\nbytes 00 ff*" + many
-                    + " 00 09\nreads 0 " + many + " 255*" + many + " 9");
+            Script.run("WORDS: " + many + " bytes before the next byte 0",
+                    "format z", "bytes 41*" + many + " 00", "reads " + many + " 65*" + many,
+                    "bytes 41*" + many + " 00 07", "read LEFT " + (many + 1) + " -1", "format {c:u1;d:z;e:u1;}",
+                    "bytes 00 ff*" + many + " 00 09", "reads 0 " + many + " 255*" + many + " 9");
         }
         for (int many : new int[] {21, 22, 40, 118}) {
-            Script.run("more than 20 of them: WRONG: " + many, "format z\nbytes 41*" + many + " 00\nread WRONG 0 -1\nformat {c:u1;d:z;e:u1;}\nbytes 00 41*"
-                    + many + " 00\nread WRONG 1 3");
+            Script.run("more than 20 of them: WRONG: " + many,
+                    "format z", "bytes 41*" + many + " 00", "read WRONG 0 -1", "format {c:u1;d:z;e:u1;}",
+                    "bytes 00 41*" + many + " 00", "read WRONG 1 3");
         }
         Script.run("up to the next 0 only", """
                 format {a:z;b:z;c:z;}
@@ -353,28 +363,37 @@ public final class ReadingEdgesTest {
 
     private static void wordsNoByte0() {
         for (int left : new int[] {0, 1, 2, 19, 20}) {
-            Script.run("END: no byte 0 comes, and at most 20 bytes are left: " + left, "format z\nbytes 41*" + left
-                    + "\nread END 0 -1\nformat {c:u1;d:z;}\nbytes 00 41*" + left + "\nread END 1 3");
+            Script.run("END: no byte 0 comes, and at most 20 bytes are left: " + left,
+                    "format z", "bytes 41*" + left, "read END 0 -1", "format {c:u1;d:z;}", "bytes 00 41*" + left,
+                    "read END 1 3");
         }
         for (int left : new int[] {21, 22, 119}) {
-            Script.run("no byte 0 comes, and more are left: " + left, "format z\nbytes 41*" + left
-                    + "\nread WRONG 0 -1\nformat {c:u1;d:z;}\nbytes 00 41*" + left + "\nread WRONG 1 3");
+            Script.run("no byte 0 comes, and more are left: " + left,
+                    "format z", "bytes 41*" + left, "read WRONG 0 -1", "format {c:u1;d:z;}", "bytes 00 41*" + left,
+                    "read WRONG 1 3");
         }
     }
 
     private static void restHowManyAreLeft() {
         for (int many : new int[] {0, 1, 2, 118, 119}) {
-            Script.run("REST: how many bytes are left, then each: " + many, "format r\nbytes fe*" + many + "\nreads " + many + " 254*" + many
-                    + "\nformat {c:u1;l:r;}\nbytes 09 00*" + many + "\nreads 9 " + many + " 0*" + many);
+            Script.run("REST: how many bytes are left, then each: " + many,
+                    "format r", "bytes fe*" + many, "reads " + many + " 254*" + many, "format {c:u1;l:r;}",
+                    "bytes 09 00*" + many, "reads 9 " + many + " 0*" + many);
         }
-        Script.run("REST: 120 bytes are left", "format r\nbytes 00*119 ff\nreads 120 0*119 255");
+        Script.run("REST: 120 bytes are left",
+                "format r", "bytes 00*119 ff", "reads 120 0*119 255");
     }
 
     private static void countedAsOftenAsItSays() {
         for (int many : new int[] {0, 1, 2, 5}) {
-            Script.run("COUNTED: the TYPE as often as the FIELD's VALUE says: " + many, "format {a:u1;b:*au2;}\nbytes 0" + many + " 00*" + 2 * many
-                    + "\nreads " + many + " 0*" + many + "\nbytes 0" + many + " 00*" + (2 * many + 1) + "\nread LEFT " + (1 + 2 * many) + " -1"
-                    + (many == 0 ? "" : "\nbytes 0" + many + " 00*" + (2 * many - 1) + "\nread END " + (2 * many - 1) + " 1"));
+            Script.run("COUNTED: the TYPE as often as the FIELD's VALUE says: " + many,
+                    "format {a:u1;b:*au2;}", "bytes 0" + many + " 00*" + 2 * many, "reads " + many + " 0*" + many,
+                    "bytes 0" + many + " 00*" + (2 * many + 1), "read LEFT " + (1 + 2 * many) + " -1");
+        }
+        for (int many : new int[] {1, 2, 5}) {
+            Script.run("not as often as the FIELD's VALUE says: " + many,
+                    "format {a:u1;b:*au2;}", "bytes 0" + many + " 00*" + (2 * many - 1),
+                    "read END " + (2 * many - 1) + " 1");
         }
         Script.run("as often as the greatest says, with types of no bytes", """
                 format {a:u1;b:*a?a{255:{};0:u1;};}
@@ -402,13 +421,15 @@ public final class ReadingEdgesTest {
             int width = Integer.parseInt(unit[1]);
             for (int wanted = 0; wanted <= 17; wanted++) {
                 int rounds = (wanted + width - 1) / width;
-                String read = wanted % width == 0 ? "reads " + wanted + " 0*" + rounds + " 7" : "read WRONG " + (1 + (rounds - 1) * width) + " 1";
-                String lines = "format {a:u1;b:/a" + unit[0] + ";c:u1;}\nbytes " + Integer.toHexString(wanted) + " 00*" + rounds * width
-                        + " 07\n" + read;
+                String size = Integer.toHexString(wanted);
+                String spotAndName = (1 + (rounds - 1) * width) + " 1";
+                String title = "SIZED: as long as fewer bytes than " + wanted + " were read, " + width + " at once";
+                Script.run(title, "format {a:u1;b:/a" + unit[0] + ";c:u1;}", "bytes " + size + " 00*" + rounds * width + " 07",
+                        wanted % width == 0 ? "reads " + wanted + " 0*" + rounds + " 7" : "read WRONG " + spotAndName);
                 if (rounds > 0) {
-                    lines += "\nbytes " + Integer.toHexString(wanted) + " 00*" + (rounds * width - 1) + "\nread END " + (1 + (rounds - 1) * width) + " 1";
+                    Script.run(title, "format {a:u1;b:/a" + unit[0] + ";c:u1;}",
+                            "bytes " + size + " 00*" + (rounds * width - 1), "read END " + spotAndName);
                 }
-                Script.run("SIZED: as long as fewer bytes than " + wanted + " were read, " + width + " at once", lines);
             }
         }
         Script.run("more were in the end: WRONG, where the latest unit began", """
@@ -471,9 +492,11 @@ public final class ReadingEdgesTest {
             String[] kinds = {"s1", "s2<9", "s3<9", "s4<9"};
             for (int n = 1; n <= 4; n++) {
                 String text = "{a:" + kinds[n - 1] + ";k:u1;b:" + array + ";}";
-                Script.run("That VALUE is below 0: WRONG: " + text, "format " + text + "\nbytes ff*" + n + " 00\nread WRONG " + n + " 10\nbytes 80 00*"
-                        + n + "\nread WRONG " + n + " 10\nbytes 00*" + n + " 00\nreads 0 0\nbytes 00*" + (n - 1) + " 01 00 07\nreads 1 0 7\nbytes ff*"
-                        + n + " 00 07*9\nread WRONG " + n + " 10");
+                Script.run("That VALUE is below 0: WRONG: " + text,
+                        "format " + text, "bytes ff*" + n + " 00", "read WRONG " + n + " 10", "bytes 80 00*" + n,
+                        "read WRONG " + n + " 10", "bytes 00*" + n + " 00", "reads 0 0",
+                        "bytes 00*" + (n - 1) + " 01 00 07", "reads 1 0 7", "bytes ff*" + n + " 00 07*9",
+                        "read WRONG " + n + " 10");
             }
         }
         Script.run("a choice has no case for it", """
@@ -492,7 +515,8 @@ public final class ReadingEdgesTest {
     private static void choiceNone() {
         String text = "{a:s2;k:u1;b:?a{0:{};5:u1;6:v2;999:z;};}";
         for (int v : new int[] {-32768, -999, -5, -1, 1, 4, 7, 998, 1000, 1005, 32767}) {
-            Script.run("CHOICE: none for " + v, "format " + text + "\nbytes " + hex(v & 0xffff, 2) + " 00 01 00\nread WRONG 2 10");
+            Script.run("CHOICE: none for " + v,
+                    "format " + text, "bytes " + hex(v & 0xffff, 2) + " 00 01 00", "read WRONG 2 10");
         }
         Script.run("CHOICE: the CASE whose figure is the VALUE", "format " + text + """
 
@@ -525,23 +549,31 @@ public final class ReadingEdgesTest {
     }
 
     private static void oneMoreThan160() {
-        String[][] units = {{"u1", "07", "7"}, {"v2", "07 00", "7"}, {"s3", "00 00 07", "7"}, {"u4", "00 00 00 07", "7"}, {"f", "00 00 00 07", "7"},
-            {"d", "00 00 00 00 00 00 00 07", "7"}, {"p3", "e0", "7"}, {"z", "00", "0"}, {"{l:u1;}", "07", "7"}};
+        String[][] units = {{"u1", "07", "7"}, {"v2", "07 00", "7"}, {"s3", "00 00 07", "7"},
+            {"u4", "00 00 00 07", "7"}, {"f", "00 00 00 07", "7"}, {"d", "00 00 00 00 00 00 00 07", "7"},
+            {"p3", "e0", "7"}, {"z", "00", "0"}, {"{l:u1;}", "07", "7"}};
         for (String[] unit : units) {
             int name = unit[0].contains("l:") ? 11 : 10;
             String bytes = unit[1];
-            Script.run("VALUES: at most 160: the last is " + unit[0], "format " + WITH_159.replace("X", unit[0]) + "\nbytes " + BYTES_OF_159 + " "
-                    + bytes + "\nreads 79 1*158 " + unit[2]);
-            Script.run("One more VALUE than 160: WRONG: " + unit[0], "values 5\nformat " + WITH_160.replace("X", unit[0]) + "\nbytes " + BYTES_OF_160 + " "
-                    + bytes + "\nread WRONG 54 " + name + "\nbytes " + BYTES_OF_160 + "\nread END 54 " + name + "\nholds 5");
+            Script.run("VALUES: at most 160: the last is " + unit[0],
+                    "format " + WITH_159.replace("X", unit[0]), "bytes " + BYTES_OF_159 + " " + bytes,
+                    "reads 79 1*158 " + unit[2]);
+            Script.run("One more VALUE than 160: WRONG: " + unit[0],
+                    "values 5", "format " + WITH_160.replace("X", unit[0]), "bytes " + BYTES_OF_160 + " " + bytes,
+                    "read WRONG 54 " + name, "bytes " + BYTES_OF_160, "read END 54 " + name, "holds 5");
         }
-        Script.run("160 and no more", "format " + WITH_160.replace("X", "{}") + "\nbytes " + BYTES_OF_160 + "\nreads 53 1*159");
-        Script.run("WORDS: how many they are, and each, is a VALUE", "format " + WITH_159.replace("X", "z") + "\nbytes " + BYTES_OF_159
-                + " 41 00\nread WRONG 80 10\nbytes " + BYTES_OF_159 + " 41*20 00\nread WRONG 80 10\nbytes " + BYTES_OF_159 + " 41\nread END 80 10");
-        Script.run("REST: how many they are, and each, is a VALUE", "format " + WITH_159.replace("X", "r") + "\nbytes " + BYTES_OF_159
-                + " 41\nread WRONG 80 10\nbytes " + BYTES_OF_159 + " 41*40\nread WRONG 80 10\nbytes " + BYTES_OF_159 + "\nreads 79 1*158 0");
-        Script.run("REST behind 160", "format " + WITH_160.replace("X", "r") + "\nbytes " + BYTES_OF_160 + "\nread WRONG 54 10\nbytes "
-                + BYTES_OF_160 + " 01\nread WRONG 54 10");
+        Script.run("160 and no more",
+                "format " + WITH_160.replace("X", "{}"), "bytes " + BYTES_OF_160, "reads 53 1*159");
+        Script.run("WORDS: how many they are, and each, is a VALUE",
+                "format " + WITH_159.replace("X", "z"), "bytes " + BYTES_OF_159 + " 41 00", "read WRONG 80 10",
+                "bytes " + BYTES_OF_159 + " 41*20 00", "read WRONG 80 10", "bytes " + BYTES_OF_159 + " 41",
+                "read END 80 10");
+        Script.run("REST: how many they are, and each, is a VALUE",
+                "format " + WITH_159.replace("X", "r"), "bytes " + BYTES_OF_159 + " 41", "read WRONG 80 10",
+                "bytes " + BYTES_OF_159 + " 41*40", "read WRONG 80 10", "bytes " + BYTES_OF_159, "reads 79 1*158 0");
+        Script.run("REST behind 160",
+                "format " + WITH_160.replace("X", "r"), "bytes " + BYTES_OF_160, "read WRONG 54 10",
+                "bytes " + BYTES_OF_160 + " 01", "read WRONG 54 10");
         Script.run("in the midst of bits", """
                 format {a:u1;b:*a{c:p1;d:p1;e:p1;f:p1;};}
                 bytes 28 f0*40
@@ -556,10 +588,12 @@ public final class ReadingEdgesTest {
 
     private static void bytesAreLeft() {
         for (int left : new int[] {1, 2, 118}) {
-            Script.run("Bytes are left: SPOT is the first of these, NAME -1: " + left, "values 5\nformat {c:u2;}\nbytes 00*2 07*" + left
-                    + "\nread LEFT 2 -1\nholds 5\ncut(2) = 2\nreads 0\ncount(3) = 2\ncount(4) = -1");
+            Script.run("Bytes are left: SPOT is the first of these, NAME -1: " + left,
+                    "values 5", "format {c:u2;}", "bytes 00*2 07*" + left, "read LEFT 2 -1", "holds 5", "cut(2) = 2",
+                    "reads 0", "count(3) = 2", "count(4) = -1");
         }
-        Script.run("none is left", "format {c:u2;}\nbytes 00 00\nreads 0\ncount(3) = -1\ncount(4) = -1");
+        Script.run("none is left",
+                "format {c:u2;}", "bytes 00 00", "reads 0", "count(3) = -1", "count(4) = -1");
         Script.run("all are left", """
                 format {}
                 bytes 07
@@ -585,9 +619,14 @@ public final class ReadingEdgesTest {
 
     private static void spotOfTheLatestUnit() {
         for (int before : new int[] {0, 1, 2, 60, 117, 118, 119}) {
-            Script.run("SPOT is the byte in which the latest unit begins", "format {a:u1;b:*au1;k:u1;}\nbytes " + Integer.toHexString(before) + " 00*" + before
-                    + "\nread END " + (before + 1) + " 10" + (before == 119 ? "" : "\nformat {a:u1;b:*au1;k:u1<7;}\nbytes " + Integer.toHexString(before)
-                    + " 00*" + before + " 07\nread WRONG " + (before + 1) + " 10"));
+            Script.run("SPOT is the byte in which the latest unit begins",
+                    "format {a:u1;b:*au1;k:u1;}", "bytes " + Integer.toHexString(before) + " 00*" + before,
+                    "read END " + (before + 1) + " 10");
+        }
+        for (int before : new int[] {0, 1, 2, 60, 117, 118}) {
+            Script.run("SPOT is the byte in which the latest unit begins",
+                    "format {a:u1;b:*au1;k:u1<7;}", "bytes " + Integer.toHexString(before) + " 00*" + before + " 07",
+                    "read WRONG " + (before + 1) + " 10");
         }
         Script.run("of bits the byte of the first of them", """
                 format {a:p7;b:p1<1;c:p1<1;d:p7<1;e:p1<1;}
@@ -617,9 +656,11 @@ public final class ReadingEdgesTest {
     private static void nameOfTheInnermostField() {
         for (char name = 'a'; name <= 'l'; name++) {
             int number = name - 'a';
-            Script.run("NAME: 0 a .. 11 l: " + name, "format {" + name + ":u1<7;}\nread END 0 " + number + "\nbytes 07\nread WRONG 0 " + number
-                    + "\nformat {" + name + ":p3<7;}\nbytes\nread END 0 " + number + "\nbytes e0\nread WRONG 0 " + number
-                    + "\nformat {k:{" + name + ":z;};}\nbytes\nread END 0 " + number + "\nformat {" + name + ":{};k:f;}\nread END 0 10");
+            Script.run("NAME: 0 a .. 11 l: " + name,
+                    "format {" + name + ":u1<7;}", "read END 0 " + number, "bytes 07", "read WRONG 0 " + number,
+                    "format {" + name + ":p3<7;}", "bytes", "read END 0 " + number, "bytes e0",
+                    "read WRONG 0 " + number, "format {k:{" + name + ":z;};}", "bytes", "read END 0 " + number,
+                    "format {" + name + ":{};k:f;}", "read END 0 10");
         }
         Script.run("-1 without", """
                 format u1<7

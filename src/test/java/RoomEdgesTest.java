@@ -63,15 +63,17 @@ public final class RoomEdgesTest {
         String[] lowest = {"ef", "cd ef", "ab cd ef", "89 ab cd ef", "67 89 ab cd ef", "45 67 89 ab cd ef",
             "23 45 67 89 ab cd ef", "f1 23 45 67 89 ab cd ef"};
         for (int count = 1; count <= 8; count++) {
-            Script.run("the lowest " + count + " bytes of the number", "put(-0xedcba9876543211, " + count + ") = " + count
-                    + "\nmessage " + lowest[count - 1] + "\nput(-1, " + count + ") = " + 2 * count + "\nmessage "
-                    + lowest[count - 1] + " ff*" + count + "\nput(0, " + count + ") = " + 3 * count + "\nmessage "
-                    + lowest[count - 1] + " ff*" + count + " 00*" + count);
+            Script.run("the lowest " + count + " bytes of the number",
+                    "put(-0xedcba9876543211, " + count + ") = " + count, "message " + lowest[count - 1],
+                    "put(-1, " + count + ") = " + 2 * count, "message " + lowest[count - 1] + " ff*" + count,
+                    "put(0, " + count + ") = " + 3 * count,
+                    "message " + lowest[count - 1] + " ff*" + count + " 00*" + count);
         }
         for (int count : new int[] {0, 9, -1, 10, -8, 256, 257, Integer.MIN_VALUE, Integer.MAX_VALUE}) {
             for (int there : new int[] {0, 1, 112, 119, 120}) {
-                Script.run("count 1 .. 8, not " + count, "bytes " + hexUpTo(there) + "\nput(5, " + count + ") = " + ILLEGAL
-                        + "\ncount(1) = " + there + "\nmessage " + hexUpTo(there));
+                Script.run("count 1 .. 8, not " + count,
+                        "bytes " + hexUpTo(there), "put(5, " + count + ") = " + ILLEGAL, "count(1) = " + there,
+                        "message " + hexUpTo(there));
             }
         }
     }
@@ -79,13 +81,21 @@ public final class RoomEdgesTest {
     private static void putTooLong() {
         for (int count = 1; count <= 8; count++) {
             int fits = FULL_MESSAGE - count;
-            Script.run("MESSAGE: at most 120 bytes, the last " + count + " at once", "bytes " + hexUpTo(fits) + "\nput(-1, " + count
-                    + ") = 120\nmessage " + hexUpTo(fits) + " ff*" + count);
-            Script.run("too long by one of " + count, "bytes " + hexUpTo(fits + 1) + "\nput(-1, " + count
-                    + ") = throws.IllegalStateException\nmessage " + hexUpTo(fits + 1) + (count == 1 ? ""
-                    : "\nput(-1, " + (count - 1) + ") = 120\nmessage " + hexUpTo(fits + 1) + " ff*" + (count - 1)));
-            Script.run("a full message takes none of " + count, "bytes " + hexUpTo(120) + "\nput(-1, " + count
-                    + ") = throws.IllegalStateException\nmessage " + hexUpTo(120));
+            Script.run("MESSAGE: at most 120 bytes, the last " + count + " at once",
+                    "bytes " + hexUpTo(fits), "put(-1, " + count + ") = 120",
+                    "message " + hexUpTo(fits) + " ff*" + count);
+            Script.run("too long by one of " + count,
+                    "bytes " + hexUpTo(fits + 1), "put(-1, " + count + ") = throws.IllegalStateException",
+                    "message " + hexUpTo(fits + 1));
+            Script.run("a full message takes none of " + count,
+                    "bytes " + hexUpTo(120), "put(-1, " + count + ") = throws.IllegalStateException",
+                    "message " + hexUpTo(120));
+        }
+        for (int count = 2; count <= 8; count++) {
+            int there = FULL_MESSAGE + 1 - count;
+            Script.run("one fewer fits where " + count + " were too many",
+                    "bytes " + hexUpTo(there), "put(-1, " + count + ") = throws.IllegalStateException",
+                    "put(-1, " + (count - 1) + ") = 120", "message " + hexUpTo(there) + " ff*" + (count - 1));
         }
     }
 
@@ -93,23 +103,31 @@ public final class RoomEdgesTest {
         for (int there : new int[] {0, 1, 2, 119, 120}) {
             for (int length : new int[] {0, 1, there / 2, there - 1, there}) {
                 if (length >= 0 && length <= there) {
-                    Script.run("length 0 .. its length: " + length + " of " + there, "bytes " + hexUpTo(there) + "\ncut(" + length
-                            + ") = " + length + "\nmessage " + hexUpTo(length) + (length == FULL_MESSAGE ? "" : "\nput(250, 1) = "
-                            + (length + 1) + "\nmessage " + (hexUpTo(length) + " fa").strip()));
+                    Script.run("length 0 .. its length: " + length + " of " + there,
+                            "bytes " + hexUpTo(there), "cut(" + length + ") = " + length, "message " + hexUpTo(length));
+                }
+                if (length >= 0 && length < FULL_MESSAGE) {
+                    Script.run("what is put then is put at the new end: " + length + " of " + there,
+                            "bytes " + hexUpTo(Math.max(length, there)), "cut(" + length + ") = " + length,
+                            "put(250, 1) = " + (length + 1), "message " + (hexUpTo(length) + " fa").strip());
                 }
             }
             for (int length : new int[] {-1, there + 1, there + 2, 121, Integer.MIN_VALUE, Integer.MAX_VALUE}) {
-                Script.run("length not " + length + " of " + there, "bytes " + hexUpTo(there) + "\ncut(" + length + ") = " + ILLEGAL
-                        + "\nmessage " + hexUpTo(there));
+                Script.run("length not " + length + " of " + there,
+                        "bytes " + hexUpTo(there), "cut(" + length + ") = " + ILLEGAL, "message " + hexUpTo(there));
             }
         }
     }
 
     private static void byteThereIsNone() {
         for (int there : new int[] {0, 1, 119, 120}) {
-            Script.run("there is none", "bytes " + hexUpTo(there) + "\nbyteAt(-1) = " + OUT + "\nbyteAt(" + there + ") = " + OUT
-                    + "\nbyteAt(120) = " + OUT + "\nbyteAt(-2147483648) = " + OUT + "\nbyteAt(2147483647) = " + OUT
-                    + (there == 0 ? "" : "\nbyteAt(0) = 1\nbyteAt(" + (there - 1) + ") = " + there));
+            Script.run("there is none",
+                    "bytes " + hexUpTo(there), "byteAt(-1) = " + OUT, "byteAt(" + there + ") = " + OUT, "byteAt(120) = " + OUT,
+                    "byteAt(-2147483648) = " + OUT, "byteAt(2147483647) = " + OUT);
+        }
+        for (int there : new int[] {1, 119, 120}) {
+            Script.run("Byte i of the MESSAGE",
+                    "bytes " + hexUpTo(there), "byteAt(0) = 1", "byteAt(" + (there - 1) + ") = " + there);
         }
         Script.run("what was cut off is no more there", """
                 bytes 01 02 03
@@ -122,23 +140,23 @@ public final class RoomEdgesTest {
 
     private static void byteIs0To255() {
         for (int b = 0; b < 256; b++) {
-            Script.run("0 .. 255", "put(" + b + ", 1) = 1\nbyteAt(0) = " + b + "\nput(" + (b - 256) + ", 1) = 2\nbyteAt(1) = " + b);
+            Script.run("0 .. 255",
+                    "put(" + b + ", 1) = 1", "byteAt(0) = " + b, "put(" + (b - 256) + ", 1) = 2", "byteAt(1) = " + b);
         }
     }
 
     private static void valueThereIsNone() {
         for (int there : new int[] {0, 1, 159, 160}) {
             for (String getter : new String[] {"value", "real"}) {
-                StringBuilder lines = new StringBuilder("values " + upTo(there) + "\n");
                 for (int i : new int[] {-1, there, there + 1, 160, Integer.MIN_VALUE, Integer.MAX_VALUE}) {
-                    lines.append(getter + "(" + i + ") = " + OUT + "\n");
+                    Script.run("there is none", "values " + upTo(there), getter + "(" + i + ") = " + OUT);
                 }
-                if (there > 0) {
-                    lines.append("value(0) = 1\nvalue(" + (there - 1) + ") = " + there + "\n");
-                    lines.append("real(0) = 4.9E-324\nreal(" + (there - 1) + ") = " + Double.longBitsToDouble(there) + "\n");
-                }
-                Script.run("there is none", lines.toString());
             }
+        }
+        for (int there : new int[] {1, 159, 160}) {
+            Script.run("VALUE i, and as a double",
+                    "values " + upTo(there), "value(0) = 1", "value(" + (there - 1) + ") = " + there, "real(0) = 4.9E-324",
+                    "real(" + (there - 1) + ") = " + Double.longBitsToDouble(there));
         }
         Script.run("what was dropped is no more there", """
                 values 1 2 3
@@ -152,23 +170,28 @@ public final class RoomEdgesTest {
     private static void setWithin() {
         for (int there : new int[] {0, 1, 2, 159, 160}) {
             for (int i : new int[] {-1, there + 1, there + 2, 161, Integer.MIN_VALUE, Integer.MAX_VALUE}) {
-                Script.run("VALUE i 0 .. how many there are, not " + i, "values " + upTo(there) + "\nset(" + i + ", 7) = " + ILLEGAL
-                        + "\nholds " + upTo(there));
+                Script.run("VALUE i 0 .. how many there are, not " + i,
+                        "values " + upTo(there), "set(" + i + ", 7) = " + ILLEGAL, "holds " + upTo(there));
             }
             if (there > 0) {
-                Script.run("VALUE i becomes v", "values " + upTo(there) + "\nset(0, -7) = " + there + "\nvalue(0) = -7\nset("
-                        + (there - 1) + ", -8) = " + there + "\nvalue(" + (there - 1) + ") = -8\ncount(2) = " + there);
+                Script.run("VALUE i becomes v",
+                        "values " + upTo(there), "set(0, -7) = " + there, "value(0) = -7",
+                        "set(" + (there - 1) + ", -8) = " + there, "value(" + (there - 1) + ") = -8",
+                        "count(2) = " + there);
             }
             if (there < FULL_VALUES) {
-                Script.run("i is that: one more", "values " + upTo(there) + "\nset(" + there + ", -7) = " + (there + 1)
-                        + "\nholds " + (upTo(there) + " -7").strip());
+                Script.run("i is that: one more",
+                        "values " + upTo(there), "set(" + there + ", -7) = " + (there + 1),
+                        "holds " + (upTo(there) + " -7").strip());
             }
         }
     }
 
     private static void set160AreThere() {
-        Script.run("159 are there: one more", "values " + upTo(159) + "\nset(159, 7) = 160\nvalue(159) = 7\nvalue(158) = 159");
-        Script.run("160 are there", "values " + upTo(160) + "\nset(160, 7) = throws.IllegalStateException\nholds " + upTo(160));
+        Script.run("159 are there: one more",
+                "values " + upTo(159), "set(159, 7) = 160", "value(159) = 7", "value(158) = 159");
+        Script.run("160 are there",
+                "values " + upTo(160), "set(160, 7) = throws.IllegalStateException", "holds " + upTo(160));
         Script.run("160 are there: others", "values " + upTo(160) + """
 
                 set(161, 7) = throws.IllegalArgumentException
@@ -189,8 +212,9 @@ public final class RoomEdgesTest {
                 {Integer.MIN_VALUE, 0}, {0, Integer.MIN_VALUE}, {Integer.MIN_VALUE, Integer.MIN_VALUE}, {-1, Integer.MIN_VALUE},
                 {Integer.MIN_VALUE, Integer.MAX_VALUE}, {-1, 2}};
             for (int[] pair : refused) {
-                Script.run("not that many of " + there, "values " + upTo(there) + "\ndrop(" + pair[0] + ", " + pair[1] + ") = " + OUT
-                        + "\nholds " + upTo(there));
+                Script.run("not that many of " + there,
+                        "values " + upTo(there), "drop(" + pair[0] + ", " + pair[1] + ") = " + OUT,
+                        "holds " + upTo(there));
             }
         }
     }
@@ -206,8 +230,9 @@ public final class RoomEdgesTest {
                                 left.add("" + v);
                             }
                         }
-                        Script.run("from " + i + " on, " + n + " of " + there, "values " + upTo(there) + "\ndrop(" + i + ", " + n
-                                + ") = " + (there - n) + "\nholds " + left);
+                        Script.run("from " + i + " on, " + n + " of " + there,
+                                "values " + upTo(there), "drop(" + i + ", " + n + ") = " + (there - n),
+                                "holds " + left);
                     }
                 }
             }
@@ -216,7 +241,8 @@ public final class RoomEdgesTest {
 
     private static void countOutOfRange() {
         for (int what : new int[] {-1, 6, 7, 256, Integer.MIN_VALUE, Integer.MAX_VALUE}) {
-            Script.run("a number out of range: " + what, "count(" + what + ") = " + ILLEGAL + "\ncount(0) = 0\ncount(5) = 0");
+            Script.run("a number out of range: " + what,
+                    "count(" + what + ") = " + ILLEGAL, "count(0) = 0", "count(5) = 0");
         }
     }
 

@@ -39,9 +39,9 @@ final class Script {
         this.title = title;
     }
 
-    static void run(String title, String lines) {
+    static void run(String title, String... lines) {
         Script script = new Script(title);
-        for (String line : lines.split("\n")) {
+        for (String line : String.join("\n", lines).split("\n")) {
             script.step(line.strip());
             check(title + ": calls of one object up to " + line, script.calls.size() <= CALLS_OF_AN_OBJECT, true);
         }

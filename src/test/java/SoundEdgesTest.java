@@ -143,7 +143,8 @@ public final class SoundEdgesTest {
     }
 
     private static void wholeOnly() {
-        Texts.areNoTypes("", "u", "u1<", "{", "{a:u1", "{a:u1;", "u11", "{}}", "{a:u1;}u1", "*a", "?a{0:u1;", "x", "{a:{b:{c:{d:{e:u1;};};};};}");
+        Texts.areNoTypes("", "u", "u1<", "{", "{a:u1", "{a:u1;", "u11", "{}}", "{a:u1;}u1", "*a", "?a{0:u1;", "x");
+        Texts.areNoTypes("{a:{b:{c:{d:{e:u1;};};};};}");
         // What is neither whole nor sound is not whole.
         Texts.areNoTypes("p1x", "{a:u1<0;", "*au1;", "{a:*bu1;", "{a:r;b:r;");
         Texts.compile(1, "u1");

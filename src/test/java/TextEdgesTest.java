@@ -27,14 +27,17 @@ public final class TextEdgesTest {
         Script.check("signs of the full text", FULL.length(), 90);
         for (int more = 1; more <= 8; more++) {
             String last = FULL.substring(90 - more);
-            Script.run("TEXT: at most 90 signs, the last " + more + " at once", "text " + FULL.substring(0, 90 - more)
-                    + "\ncount(0) = " + (90 - more) + "\ntype(" + Script.packed(last) + ") = 90\nfault() = -2\ncompile() = 17");
+            Script.run("TEXT: at most 90 signs, the last " + more + " at once",
+                    "text " + FULL.substring(0, 90 - more), "count(0) = " + (90 - more),
+                    "type(" + Script.packed(last) + ") = 90", "fault() = -2", "compile() = 17");
         }
         for (int more = 2; more <= 8; more++) {
             String last = FULL.substring(91 - more);
-            Script.run("too long by one of " + more, "text " + FULL.substring(0, 91 - more)
-                    + "\ntype(" + Script.packed(last + "}") + ") = throws.IllegalStateException\ncount(0) = " + (91 - more)
-                    + "\nfault() = " + (91 - more) + "\ntype(" + Script.packed(last) + ") = 90\ncompile() = 17");
+            Script.run("too long by one of " + more,
+                    "text " + FULL.substring(0, 91 - more),
+                    "type(" + Script.packed(last + "}") + ") = throws.IllegalStateException",
+                    "count(0) = " + (91 - more), "fault() = " + (91 - more), "type(" + Script.packed(last) + ") = 90",
+                    "compile() = 17");
         }
         Script.run("a full text takes none", "text " + FULL + """
 
@@ -60,16 +63,17 @@ public final class TextEdgesTest {
         for (int code = 0; code < 256; code++) {
             boolean good = code >= 33 && code <= 126;
             String answer = code == 0 ? "1" : good ? "2" : "throws.IllegalArgumentException";
-            Script.run("codes 33 .. 126: " + code, "text u\ntype(" + code + ") = " + answer
-                    + "\ncount(0) = " + (good ? 2 : 1));
+            Script.run("codes 33 .. 126: " + code,
+                    "text u", "type(" + code + ") = " + answer, "count(0) = " + (good ? 2 : 1));
         }
         for (int code : new int[] {1, 32, 33, 126, 127, 128, 255}) {
             for (int shift = 0; shift < 64; shift += 8) {
                 long signs = 0x7575757575757575L & ~(255L << shift) | (long) code << shift;
                 boolean good = code >= 33 && code <= 126;
-                Script.run("code " + code + " above " + shift + " bits", "text s\ntype(" + signs + ") = "
-                        + (good ? "9" : "throws.IllegalArgumentException") + "\ncount(0) = " + (good ? 9 : 1)
-                        + "\ntype(" + ((long) code << shift) + ") = " + (good ? "10" : "throws.IllegalArgumentException"));
+                String refused = "throws.IllegalArgumentException";
+                Script.run("code " + code + " above " + shift + " bits",
+                        "text s", "type(" + signs + ") = " + (good ? "9" : refused), "count(0) = " + (good ? 9 : 1),
+                        "type(" + ((long) code << shift) + ") = " + (good ? "10" : refused));
             }
         }
     }
@@ -82,9 +86,11 @@ public final class TextEdgesTest {
             for (int at = 56; at >= 0; at -= 8) {
                 signs = signs << 8 | (at == shift ? 0 : seven.charAt(next++));
             }
-            Script.run("0 left out above " + shift + " bits", "type(" + signs + ") = 7\nfault() = -2\ncompile() = 3");
+            Script.run("0 left out above " + shift + " bits",
+                    "type(" + signs + ") = 7", "fault() = -2", "compile() = 3");
         }
-        Script.run("all 0: nothing is put", "type(0) = 0\ncount(0) = 0\nfault() = 0\ntext u1\ntype(0) = 2\nfault() = -2");
+        Script.run("all 0: nothing is put",
+                "type(0) = 0", "count(0) = 0", "fault() = 0", "text u1", "type(0) = 2", "fault() = -2");
     }
 
     private static void aDigit(String kind, int most) {
@@ -203,7 +209,8 @@ public final class TextEdgesTest {
     /** Behind each beginning of these texts each sign is tried, against the second writing of the rules. */
     private static void everySignAtEveryPlace() {
         String[] texts = {"u1<12", "v4>999", "s2=0", "{a:p3;l:p7<1;}", "{a:f;b:d;c:z;d:r;}", "*au1<3", "/l{a:u1;}",
-            "?a{0:u1;12:z;999:{};}", "{a:u1;b:*a{c:?a{1:/cu1;};};}", "*a/b*c?d{1:u1;}", "{a:{b:{c:{d:{};};};};}", "?a{1:?b{2:?c{3:?d{4:p1;};};};}"};
+            "?a{0:u1;12:z;999:{};}", "{a:u1;b:*a{c:?a{1:/cu1;};};}", "*a/b*c?d{1:u1;}", "{a:{b:{c:{d:{};};};};}",
+            "?a{1:?b{2:?c{3:?d{4:p1;};};};}"};
         for (String text : texts) {
             for (int length = 0; length <= text.length(); length++) {
                 for (char sign = '!'; sign <= '~'; sign++) {

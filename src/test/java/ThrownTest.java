@@ -50,10 +50,12 @@ public final class ThrownTest {
 
     private static void wholeBeforeSound() {
         for (String text : new String[] {"p1:", "{a:p1<0;", "*au1u", "{a:r;b:u1;};", "u1<0<", "{a:u4;b:*au4;"}) {
-            Script.run("compile: no whole TYPE, and not sound", "text " + text + "\ncompile() = throws.UnsupportedOperationException");
+            Script.run("compile: no whole TYPE, and not sound",
+                    "text " + text, "compile() = throws.UnsupportedOperationException");
         }
         for (String text : new String[] {"p1", "{a:p1<0;}", "*au1", "{a:r;b:u1;}", "u1<0", "{a:u4;b:*au4;}"}) {
-            Script.run("compile: a whole TYPE, not sound", "text " + text + "\nfault() = -2\ncompile() = throws.IllegalStateException");
+            Script.run("compile: a whole TYPE, not sound",
+                    "text " + text, "fault() = -2", "compile() = throws.IllegalStateException");
         }
     }
 

@@ -74,89 +74,109 @@ public final class WritingEdgesTest {
     private static void notASignedInts() {
         for (String in : new String[] {INT_MIN, "-2147483647", "-1", "0", "1", INT_MAX}) {
             String bytes = String.format("%08x", (int) (long) Long.decode(in)).replaceAll("(..)", "$1 ").strip();
-            Script.run("a signed int's for FLOAT: " + in, "format f\nvalues " + in + "\nwrites " + bytes + "\nvalues\nreads " + in);
+            Script.run("a signed int's for FLOAT: " + in,
+                    "format f", "values " + in, "writes " + bytes, "values", "reads " + in);
         }
         for (String out : new String[] {"-2147483649", "2147483648", "4294967295", "4294967296", LONG_MIN, LONG_MAX}) {
-            Script.run("not a signed int's for FLOAT: " + out, "format f\nvalues " + out + "\nwrite WRONG 0 -1\nformat {c:u1;k:f;}\nvalues 1 " + out
-                    + "\nwrite WRONG 1 10");
+            Script.run("not a signed int's for FLOAT: " + out,
+                    "format f", "values " + out, "write WRONG 0 -1", "format {c:u1;k:f;}", "values 1 " + out,
+                    "write WRONG 1 10");
         }
         for (String in : new String[] {LONG_MIN, "-1", "0", "2147483648", LONG_MAX}) {
             String bytes = String.format("%016x", Long.decode(in)).replaceAll("(..)", "$1 ").strip();
-            Script.run("any VALUE for DOUBLE: " + in, "format d\nvalues " + in + "\nwrites " + bytes + "\nvalues\nreads " + in);
+            Script.run("any VALUE for DOUBLE: " + in,
+                    "format d", "values " + in, "writes " + bytes, "values", "reads " + in);
         }
     }
 
     private static void wordsHowMany() {
         for (int many : new int[] {0, 1, 19, 20}) {
-            Script.run("0 .. 20 (WORDS) for how many: " + many, "format z\nvalues " + many + " 65*" + many + "\nwrites 41*" + many + " 00");
+            Script.run("0 .. 20 (WORDS) for how many: " + many,
+                    "format z", "values " + many + " 65*" + many, "writes 41*" + many + " 00");
         }
         for (String many : new String[] {"-1", "-20", "21", "22", "120", "255", "4294967296", LONG_MIN, LONG_MAX}) {
-            Script.run("not 0 .. 20 (WORDS) for how many: " + many, "format {c:u1;k:z;}\nvalues 9 " + many + " 65*22\nwrite WRONG 1 10\nvalues 9 "
-                    + many + "\nwrite WRONG 1 10");
+            Script.run("not 0 .. 20 (WORDS) for how many: " + many,
+                    "format {c:u1;k:z;}", "values 9 " + many + " 65*22", "write WRONG 1 10", "values 9 " + many,
+                    "write WRONG 1 10");
         }
     }
 
     private static void wordsBytes() {
         for (int b : new int[] {1, 2, 254, 255}) {
-            Script.run("1 .. 255 (WORDS) for a byte: " + b, "format {c:u1;k:z;}\nvalues 9 3 " + b + "*3\nwrites 09 " + Integer.toHexString(b) + "*3 00");
+            Script.run("1 .. 255 (WORDS) for a byte: " + b,
+                    "format {c:u1;k:z;}", "values 9 3 " + b + "*3", "writes 09 " + Integer.toHexString(b) + "*3 00");
         }
         for (String b : new String[] {"0", "-1", "256", "257", "-255", LONG_MIN, LONG_MAX}) {
-            Script.run("not 1 .. 255 (WORDS) for a byte: " + b, "format {c:u1;k:z;}\nvalues 9 1 " + b + "\nwrite WRONG 1 10\nvalues 9 3 " + b
-                    + " 65 66\nwrite WRONG 1 10\nvalues 9 3 65 " + b + " 66\nwrite WRONG 1 10\nvalues 9 3 65 66 " + b + "\nwrite WRONG 1 10");
+            Script.run("not 1 .. 255 (WORDS) for a byte: " + b,
+                    "format {c:u1;k:z;}", "values 9 1 " + b, "write WRONG 1 10", "values 9 3 " + b + " 65 66",
+                    "write WRONG 1 10", "values 9 3 65 " + b + " 66", "write WRONG 1 10", "values 9 3 65 66 " + b,
+                    "write WRONG 1 10");
         }
     }
 
     private static void restHowMany() {
         for (int many : new int[] {0, 1, 119, 120}) {
-            Script.run("0 .. 120 (REST) for how many: " + many, "format r\nvalues " + many + " 65*" + many + "\nwrites" + " 41".repeat(many));
+            Script.run("0 .. 120 (REST) for how many: " + many,
+                    "format r", "values " + many + " 65*" + many, "writes" + " 41".repeat(many));
         }
         for (String many : new String[] {"-1", "-120", "121", "122", "255", "4294967296", LONG_MIN, LONG_MAX}) {
-            Script.run("not 0 .. 120 (REST) for how many: " + many, "format r\nvalues " + many + " 65*122\nwrite WRONG 0 -1\nvalues " + many
-                    + "\nwrite WRONG 0 -1");
+            Script.run("not 0 .. 120 (REST) for how many: " + many,
+                    "format r", "values " + many + " 65*122", "write WRONG 0 -1", "values " + many,
+                    "write WRONG 0 -1");
         }
     }
 
     private static void restBytes() {
         for (int b : new int[] {0, 1, 254, 255}) {
-            Script.run("0 .. 255 (REST) for a byte: " + b, "format {c:u1;k:r;}\nvalues 9 3 " + b + "*3\nwrites 09 " + Integer.toHexString(b) + "*3");
+            Script.run("0 .. 255 (REST) for a byte: " + b,
+                    "format {c:u1;k:r;}", "values 9 3 " + b + "*3", "writes 09 " + Integer.toHexString(b) + "*3");
         }
         for (String b : new String[] {"-1", "256", "257", "-255", LONG_MIN, LONG_MAX}) {
-            Script.run("not 0 .. 255 (REST) for a byte: " + b, "format {c:u1;k:r;}\nvalues 9 1 " + b + "\nwrite WRONG 1 10\nvalues 9 3 " + b
-                    + " 65 66\nwrite WRONG 1 10\nvalues 9 3 65 " + b + " 66\nwrite WRONG 1 10\nvalues 9 3 65 66 " + b + "\nwrite WRONG 1 10");
+            Script.run("not 0 .. 255 (REST) for a byte: " + b,
+                    "format {c:u1;k:r;}", "values 9 1 " + b, "write WRONG 1 10", "values 9 3 " + b + " 65 66",
+                    "write WRONG 1 10", "values 9 3 65 " + b + " 66", "write WRONG 1 10", "values 9 3 65 66 " + b,
+                    "write WRONG 1 10");
         }
     }
 
     private static void tooManyBytes() {
-        String[][] units = {{"u1", "07"}, {"v2", "07 00"}, {"s2", "00 07"}, {"u3", "00 00 07"}, {"v3", "07 00 00"}, {"u4", "00 00 00 07"},
-            {"f", "00 00 00 07"}, {"d", "00 00 00 00 00 00 00 07"}, {"{k:u2;}", "00 07"}, {"p7", "0e"}};
+        String[][] units = {{"u1", "07"}, {"v2", "07 00"}, {"s2", "00 07"}, {"u3", "00 00 07"},
+            {"v3", "07 00 00"}, {"u4", "00 00 00 07"}, {"f", "00 00 00 07"}, {"d", "00 00 00 00 00 00 00 07"},
+            {"{k:u2;}", "00 07"}, {"p7", "0e"}};
         for (String[] unit : units) {
             int width = unit[1].split(" ").length;
             for (int before = 117 - width; before <= 119; before++) {
                 int from = before + 1;
-                String lines = "format {a:u1;b:*au1;k:" + unit[0] + ";}\nvalues " + before + " 9*" + before + " 7\n";
                 String written = Integer.toHexString(before) + " 09*" + before + " " + unit[1];
-                Script.run("at most 120 bytes: " + width + " behind " + from, lines + (from + width <= 120 ? "writes " + written : "write WRONG " + from + " 10"));
+                Script.run("at most 120 bytes: " + width + " behind " + from,
+                        "format {a:u1;b:*au1;k:" + unit[0] + ";}", "values " + before + " 9*" + before + " 7",
+                        from + width <= 120 ? "writes " + written : "write WRONG " + from + " 10");
             }
         }
-        Script.run("what takes no byte still fits", "format {a:u1;b:*au1;k:{};}\nvalues 119 9*119\nwrites 77 09*119");
+        Script.run("what takes no byte still fits",
+                "format {a:u1;b:*au1;k:{};}", "values 119 9*119", "writes 77 09*119");
         for (int many : new int[] {120, 121, 150}) {
-            Script.run("in the midst of an array", "format {a:u1;b:*au1;}\nvalues " + many + " 9*" + many + "\nwrite WRONG 120 1");
+            Script.run("in the midst of an array",
+                    "format {a:u1;b:*au1;}", "values " + many + " 9*" + many, "write WRONG 120 1");
         }
-        Script.run("at the end of an array", "format {a:u1;b:*au1;}\nvalues 119 9*119\nwrites 77 09*119");
-        Script.run("and in one by bytes", "format {a:u1;b:/au2;}\nvalues 118 9*59\nwrites 76" + " 00 09".repeat(59)
-                + "\nvalues 120 9*60\nwrite WRONG 119 1");
+        Script.run("at the end of an array",
+                "format {a:u1;b:*au1;}", "values 119 9*119", "writes 77 09*119");
+        Script.run("and in one by bytes",
+                "format {a:u1;b:/au2;}", "values 118 9*59", "writes 76" + " 00 09".repeat(59), "values 120 9*60",
+                "write WRONG 119 1");
     }
 
     private static void tooManyBytesOfWordsAndRest() {
         for (int many : new int[] {0, 1, 2, 20}) {
             for (int free = 0; free <= many + 2; free++) {
                 int before = 119 - free;
-                String lines = "values " + before + " 9*" + before + " " + many + " 65*" + many + "\n";
+                String values = "values " + before + " 9*" + before + " " + many + " 65*" + many;
                 String written = Integer.toHexString(before) + " 09*" + before + " 41*" + many;
-                Script.run("WORDS of " + many + " bytes and the 0, where " + free + " fit", "format {a:u1;b:*au1;k:z;}\n" + lines
-                        + (many + 1 <= free ? "writes " + written + " 00" : "write WRONG " + (120 - free) + " 10"));
-                Script.run("REST of " + many + " bytes, where " + free + " fit", "format {a:u1;b:*au1;k:r;}\n" + lines
-                        + (many <= free ? "writes " + written : "write WRONG " + (120 - free) + " 10"));
+                String wrong = "write WRONG " + (120 - free) + " 10";
+                Script.run("WORDS of " + many + " bytes and the 0, where " + free + " fit",
+                        "format {a:u1;b:*au1;k:z;}", values, many + 1 <= free ? "writes " + written + " 00" : wrong);
+                Script.run("REST of " + many + " bytes, where " + free + " fit",
+                        "format {a:u1;b:*au1;k:r;}", values, many <= free ? "writes " + written : wrong);
             }
         }
         Script.run("REST of 120 bytes, where 119 fit", """
@@ -198,10 +218,12 @@ public final class WritingEdgesTest {
     }
 
     private static void noMoreValues() {
-        for (String unit : new String[] {"u1", "v2", "s3", "u4", "f", "d", "z", "r", "p3"}) {
-            Script.run("END if there are no more VALUES: " + unit, "format {k:" + unit + ";}\nvalues\nwrite END 0 10\nformat {c:u2;k:" + unit
-                    + ";}\nwrite END 0 2\nvalues 9\nwrite END 2 10\nset(1, 0) = 2\nwrites 00 09" + (unit.equals("r") ? ""
-                    : " 00".repeat(unit.equals("d") ? 8 : unit.equals("f") ? 4 : "uvs".contains(unit.substring(0, 1)) ? unit.charAt(1) - '0' : 1)));
+        String[][] units = {{"u1", "1"}, {"v2", "2"}, {"s3", "3"}, {"u4", "4"}, {"f", "4"}, {"d", "8"}, {"z", "1"}, {"r", "0"},
+            {"p3", "1"}};
+        for (String[] unit : units) {
+            Script.run("END if there are no more VALUES: " + unit[0],
+                    "format {k:" + unit[0] + ";}", "values", "write END 0 10", "format {c:u2;k:" + unit[0] + ";}", "write END 0 2",
+                    "values 9", "write END 2 10", "set(1, 0) = 2", "writes 00 09 00*" + unit[1]);
         }
         Script.run("what takes none", """
                 format {a:{};b:{c:{};};}
@@ -239,8 +261,9 @@ public final class WritingEdgesTest {
     private static void noMoreValuesInWordsAndRest() {
         for (int many : new int[] {1, 2, 20}) {
             for (String unit : new String[] {"z", "r"}) {
-                Script.run("END in the midst: " + unit, "format {c:u1;k:" + unit + ";}\nvalues 9 " + many + " 65*" + (many - 1)
-                        + "\nwrite END 1 10\nvalues 9 " + many + " 65*" + many + "\nwrites 09 41*" + many + (unit.equals("z") ? " 00" : ""));
+                Script.run("END in the midst: " + unit,
+                        "format {c:u1;k:" + unit + ";}", "values 9 " + many + " 65*" + (many - 1), "write END 1 10",
+                        "values 9 " + many + " 65*" + many, "writes 09 41*" + many + (unit.equals("z") ? " 00" : ""));
             }
         }
         Script.run("what is taken first is told first", """
@@ -273,9 +296,9 @@ public final class WritingEdgesTest {
             for (int from = 0; from < n; from += 8) {
                 bytes.append(String.format(" %02x", n - from >= 8 ? 255 : 255 << 8 - (n - from) & 255));
             }
-            Script.run("a byte's rest is 0, behind " + n + " bits", "bytes ff*9\nformat " + text + "\nvalues " + values + "\nwrites" + bytes
-                    + "\nformat {k:" + text + ";l:u1;}\nset(" + (full + (last > 0 ? 1 : 0)) + ", 129) = " + (full + (last > 0 ? 2 : 1)) + "\nwrites"
-                    + bytes + " 81");
+            Script.run("a byte's rest is 0, behind " + n + " bits",
+                    "bytes ff*9", "format " + text, "values " + values, "writes" + bytes,
+                    "format {k:" + text + ";l:u1;}", "values " + values + " 129", "writes" + bytes + " 81");
         }
         Script.run("before another TYPE", """
                 format {a:p3;b:u1;c:p3;d:{};e:p3;f:{g:p3;};h:p3;}
@@ -362,10 +385,10 @@ public final class WritingEdgesTest {
             int width = Integer.parseInt(unit[1]);
             for (int wanted = 0; wanted <= 17; wanted++) {
                 int rounds = (wanted + width - 1) / width;
-                String lines = "format {a:u1;b:/a" + unit[0] + ";c:u1;}\nvalues " + wanted + " 0*" + rounds + " 7\n"
-                        + (wanted % width == 0 ? "writes " + Integer.toHexString(wanted) + " 00*" + rounds * width + " 07"
-                                : "write WRONG " + (1 + (rounds - 1) * width) + " 1");
-                Script.run("SIZED: as long as fewer bytes than " + wanted + " were written, " + width + " at once", lines);
+                String written = Integer.toHexString(wanted) + " 00*" + rounds * width + " 07";
+                Script.run("SIZED: as long as fewer bytes than " + wanted + " were written, " + width + " at once",
+                        "format {a:u1;b:/a" + unit[0] + ";c:u1;}", "values " + wanted + " 0*" + rounds + " 7",
+                        wanted % width == 0 ? "writes " + written : "write WRONG " + (1 + (rounds - 1) * width) + " 1");
             }
         }
         Script.run("of words and bits", """
@@ -388,8 +411,9 @@ public final class WritingEdgesTest {
 
     private static void valuesAreLeft() {
         for (int left : new int[] {1, 2, 100}) {
-            Script.run("VALUES are left: " + left, "format {c:u1;k:u2;}\nbytes 05 06\nvalues 1 2 7*" + left
-                    + "\nwrite LEFT -1 -1\nmessage 05 06\nholds 1 2 7*" + left + "\ndrop(2, " + left + ") = 2\nwrites 01 00 02");
+            Script.run("VALUES are left: " + left,
+                    "format {c:u1;k:u2;}", "bytes 05 06", "values 1 2 7*" + left, "write LEFT -1 -1", "message 05 06",
+                    "holds 1 2 7*" + left, "drop(2, " + left + ") = 2", "writes 01 00 02");
         }
         Script.run("all are left", """
                 format {}
@@ -464,8 +488,10 @@ public final class WritingEdgesTest {
                 """);
         for (char name = 'a'; name <= 'l'; name++) {
             int number = name - 'a';
-            Script.run("NAME: 0 a .. 11 l: " + name, "format {" + name + ":u1;}\nvalues\nwrite END 0 " + number + "\nvalues 256\nwrite WRONG 0 " + number
-                    + "\nformat {k:{" + name + ":f;};}\nvalues\nwrite END 0 " + number + "\nformat {" + name + ":{};k:f;}\nwrite END 0 10");
+            Script.run("NAME: 0 a .. 11 l: " + name,
+                    "format {" + name + ":u1;}", "values", "write END 0 " + number, "values 256",
+                    "write WRONG 0 " + number, "format {k:{" + name + ":f;};}", "values", "write END 0 " + number,
+                    "format {" + name + ":{};k:f;}", "write END 0 10");
         }
     }
 
